@@ -762,15 +762,15 @@ public final class LinearCells {
         }
 
         static boolean isNumber(long value) {
-            return kindOf(value) == A_NUMBER;
+            return value >> 32 == A_NUMBER;
         }
 
         static boolean isCell(long value) {
-            return kindOf(value) == A_CELL;
+            return value >> 32 == A_CELL;
         }
 
         static boolean isPair(long value) {
-            return kindOf(value) == A_PAIR;
+            return value >> 32 == A_PAIR;
         }
     }
 
