@@ -199,7 +199,7 @@ public final class LinearCells {
         private static final int MOST_TYPE_SIGNS = 62;
         // Each expression has a character of its own.
         static final int MOST_EXPRESSIONS = MOST_CHARACTERS;
-        // Each binder but the procedure's takes five characters at least.
+        // The procedure's own, and at most 23 more: each takes five characters, the rest at least four.
         static final int MOST_BINDERS = MOST_CHARACTERS / 5;
 
         boolean there;
@@ -528,8 +528,8 @@ public final class LinearCells {
         private static final int FIRST_PAIR = 3;
         // At most 15 pairs in each of the eight written types, and one more for each expression.
         private static final int MOST_TYPES = FIRST_PAIR + 120 + Procedure.MOST_EXPRESSIONS;
-        // A written type is at most four deep: so many parts wait for a second one, and the last.
-        private static final int MOST_WAITING = 8;
+        // A written type is at most four deep: four first parts wait for second ones, and one of these.
+        private static final int MOST_WAITING = 5;
 
         private final int[] first = new int[MOST_TYPES];
         private final int[] second = new int[MOST_TYPES];
@@ -787,7 +787,7 @@ public final class LinearCells {
 
         private final long[] first = new long[MOST_PAIRS];
         private final long[] second = new long[MOST_PAIRS];
-        // What is in a pair is summed up: pairs share parts, so walking through one might not end.
+        // What is in a pair is summed up: pairs share parts, so walking through one could take ages.
         private final int[] cellCount = new int[MOST_PAIRS];
         private final int[] numberCount = new int[MOST_PAIRS];
         private final boolean[] withNumber = new boolean[MOST_PAIRS];
@@ -931,7 +931,7 @@ public final class LinearCells {
         private static final int MOST_BEGUN = 2000;
         private static final int DEEPEST_CALL = 24;
         private static final int MOST_OPEN = DEEPEST_CALL * (Reader.DEEPEST_EXPRESSION + 1);
-        // No expression is taken up more often than once for each of two parts, and at its end.
+        // An expression is taken up once, and once more behind each of at most two parts.
         private static final int MOST_STEPS = 3 * MOST_BEGUN;
 
         private final Memory memory = new Memory();

@@ -4,6 +4,7 @@ final class Due {
     static final int UNSUPPORTED = -1002;
     static final int ILLEGAL_STATE = -1003;
     static final int OUT_OF_BOUNDS = -1004;
+    private static final int ANOTHER_EXCEPTION = -1005;
 
     private static int wrong = 0;
 
@@ -44,15 +45,35 @@ final class Due {
         }
     }
 
-    /** What define(k) answers, or which exception it throws. */
-    static int defined(LinearCells x, int k) {
+    /** A call of the face; what it throws must be just the document's, and of no class below it. */
+    private interface Call {
+        int answer();
+    }
+
+    private static int answerOf(Call call) {
         try {
-            return x.define(k);
-        } catch (IllegalArgumentException e) {
+            return call.answer();
+        } catch (RuntimeException e) {
+            return numberOf(e.getClass());
+        }
+    }
+
+    private static int numberOf(Class<?> exception) {
+        if (exception == IllegalArgumentException.class) {
             return ILLEGAL_ARGUMENT;
-        } catch (UnsupportedOperationException e) {
+        }
+        if (exception == UnsupportedOperationException.class) {
             return UNSUPPORTED;
         }
+        if (exception == IllegalStateException.class) {
+            return ILLEGAL_STATE;
+        }
+        return exception == IndexOutOfBoundsException.class ? OUT_OF_BOUNDS : ANOTHER_EXCEPTION;
+    }
+
+    /** What define(k) answers, or which exception it throws. */
+    static int defined(LinearCells x, int k) {
+        return answerOf(() -> x.define(k));
     }
 
     static int defined(LinearCells x, int k, String text) {
@@ -77,43 +98,23 @@ final class Due {
     }
 
     static int typed(LinearCells x, int k) {
-        try {
-            return x.typed(k);
-        } catch (IllegalStateException e) {
-            return ILLEGAL_STATE;
-        }
+        return answerOf(() -> x.typed(k));
     }
 
     static int run(LinearCells x, int k, int n) {
-        try {
-            return x.run(k, n);
-        } catch (IllegalStateException e) {
-            return ILLEGAL_STATE;
-        }
+        return answerOf(() -> x.run(k, n));
     }
 
     static int value(LinearCells x, int what) {
-        try {
-            return x.value(what);
-        } catch (IllegalArgumentException e) {
-            return ILLEGAL_ARGUMENT;
-        }
+        return answerOf(() -> x.value(what));
     }
 
     static int heap(LinearCells x, int what) {
-        try {
-            return x.heap(what);
-        } catch (IllegalArgumentException e) {
-            return ILLEGAL_ARGUMENT;
-        }
+        return answerOf(() -> x.heap(what));
     }
 
     static int cell(LinearCells x, int place) {
-        try {
-            return x.cell(place);
-        } catch (IndexOutOfBoundsException e) {
-            return OUT_OF_BOUNDS;
-        }
+        return answerOf(() -> x.cell(place));
     }
 
     static void values(String call, LinearCells x, int... want) {

@@ -161,6 +161,8 @@ public final class Promise3DefineTest {
         takes(33, "xii" + Due.times(16, "(:xx") + "x" + Due.times(16, ")"));
         takes(33, "xii" + Due.times(16, "(/xyx") + "y" + Due.times(16, ")"));
         refuses("xii" + Due.times(17, "(/xyx") + "y" + Due.times(17, ")"));
+        // 33 names stand for something at once.
+        takes(33, "xii" + Due.times(15, "(/xyx") + "(/xzx" + "z" + Due.times(16, ")"));
         // The most binders that 120 characters can hold: one inside another, and beside one another.
         takes(47, "xii" + Due.times(7, "(:y(:yxx)") + Due.times(9, "(:yx") + "x" + Due.times(16, ")"));
     }

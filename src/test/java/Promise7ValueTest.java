@@ -84,6 +84,9 @@ public final class Promise7ValueTest {
         LinearCells z = Due.with(begin + "(,(n1)y)))", "x i i (@ 0 (, x 6))");
         Due.is("run(1, 8)", 0, Due.run(z, 1, 8));
         Due.values("a number is found although its count is 0", z, 3, 6, 1, 0);
+        LinearCells u = Due.with(begin + "(,y9)))", "x i i (@ 0 (, x 6))");
+        Due.is("run(1, 8)", 0, Due.run(u, 1, 8));
+        Due.values("in the first part, too", u, 3, 6, 0, 1);
     }
 
     private static void staysUntilTheNextRun() {

@@ -4,6 +4,7 @@ public final class Promise8HeapTest {
         wrongQuestions();
         ordinary();
         trapped();
+        eachRunAnew();
         staysUntilTheNextRun();
         Due.end();
     }
@@ -48,6 +49,14 @@ public final class Promise8HeapTest {
         gives(3, "x i i (: c (n x) (@ 0 (d c)))", 0, 24, 24, 0, 24 * 6);
         gives(2, "x i i (: c (n x) (@ 0 x))", 12, 12, 0, 0, 12 * 5 + 3);
         gives(3, "x i i (@ 0 x)", 0, 0, 0, 0, 48);
+    }
+
+    private static void eachRunAnew() {
+        LinearCells x = Due.with("x i i (, (n 1) (, (d (n 2)) (n 3)))");
+        for (int i = 0; i < 3; i++) {
+            Due.is("run(0, 5)", 0, Due.run(x, 0, 5));
+            Due.heaps("run(0, 5) once more", x, 2, 3, 1, 2, 9);
+        }
     }
 
     private static void staysUntilTheNextRun() {
