@@ -2,7 +2,9 @@ import java.util.Random;
 
 /** All promises together: runs of calls from seeds, answered by the program and by the Model. */
 public final class ModelTest {
-    private static final int OBJECTS = 4000;
+    private static final int OBJECTS = 8000;
+    // As many as keep an object under its 512 calls.
+    private static final int TEXTS_AN_OBJECT = 5;
     private static final int[] NUMBERS = {0, 1, 2, 3, 5, 12, 13, 23, 24, -1, Integer.MAX_VALUE, Integer.MIN_VALUE};
 
     // How often something came about that the test is for; each must be met often.
@@ -33,7 +35,7 @@ public final class ModelTest {
         Model model = new Model();
         TextMaker maker = new TextMaker(seed);
         Random random = new Random(seed);
-        for (int i = 0; i < 10; i++) {
+        for (int i = 0; i < TEXTS_AN_OBJECT; i++) {
             int k = i < 4 ? i : random.nextInt(4);
             String text = maker.text(k);
             for (int tries = 0; text.length() > 120 && tries < 20; tries++) {

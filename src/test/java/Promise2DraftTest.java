@@ -37,21 +37,20 @@ public final class Promise2DraftTest {
     }
 
     private static void refusesOtherCharacters() {
-        LinearCells x = new LinearCells();
-        Due.draft(x, "x i i ");
         for (int character = 1; character < 256; character++) {
             boolean good = character >= 32 && character <= 126;
+            LinearCells x = new LinearCells();
+            Due.draft(x, "x i i ");
             for (int i = 0; i < 8; i++) {
-                LinearCells y = new LinearCells();
                 long s = 0x2020202020202020L & ~(255L << 8 * i) | (long) character << 8 * i;
-                Due.is("character " + character + " as byte " + i, good, y.draft(s));
+                Due.is("character " + character + " as byte " + i, good, new LinearCells().draft(s));
                 if (!good) {
                     Due.is("character " + character + " as byte " + i, false, x.draft(s));
                 }
             }
+            Due.draft(x, "x");
+            Due.is("define of what was not refused", 1, Due.defined(x, 0));
         }
-        Due.draft(x, "x");
-        Due.is("define of what was not refused", 1, Due.defined(x, 0));
     }
 
     private static void refusesMoreThan120() {

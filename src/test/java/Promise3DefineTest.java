@@ -15,188 +15,175 @@ public final class Promise3DefineTest {
         Due.end();
     }
 
-    private static void takes(int expressions, String text) {
-        Due.is("define of '" + text + "'", expressions, Due.defined(new LinearCells(), 0, text));
-    }
-
-    private static void refuses(String text) {
-        Due.is("define of '" + text + "'", Due.ILLEGAL_ARGUMENT,
-            Due.defined(new LinearCells(), 0, text));
-    }
-
-    private static void misses(String text) {
-        Due.is("define of '" + text + "'", Due.UNSUPPORTED, Due.defined(new LinearCells(), 0, text));
-    }
-
     private static void counts() {
-        takes(1, "x i i 1");
-        takes(1, "x i i x");
-        takes(3, "x i i (+ x 1)");
-        takes(3, "x i i (- x 1)");
-        takes(3, "x i i (* x 1)");
-        takes(3, "x i i (< x 1)");
-        takes(4, "x i i (? x 1 2)");
-        takes(3, "x i i (: y x y)");
-        takes(3, "x i (i i) (, x x)");
-        takes(3, "x (i i) i (/ y z x y)");
-        takes(2, "x i r (n x)");
-        takes(2, "x r (i r) (g x)");
-        takes(3, "x r r (p x 1)");
-        takes(2, "x r i (d x)");
-        takes(2, "x i i (@ 3 x)");
-        takes(70, "xii" + Due.times(11, "(?x") + "(?xxx)" + Due.times(11, "(?xxx))"));
+        Due.takes(1, "x i i 1");
+        Due.takes(1, "x i i x");
+        Due.takes(3, "x i i (+ x 1)");
+        Due.takes(3, "x i i (- x 1)");
+        Due.takes(3, "x i i (* x 1)");
+        Due.takes(3, "x i i (< x 1)");
+        Due.takes(4, "x i i (? x 1 2)");
+        Due.takes(3, "x i i (: y x y)");
+        Due.takes(3, "x i (i i) (, x x)");
+        Due.takes(3, "x (i i) i (/ y z x y)");
+        Due.takes(2, "x i r (n x)");
+        Due.takes(2, "x r (i r) (g x)");
+        Due.takes(3, "x r r (p x 1)");
+        Due.takes(2, "x r i (d x)");
+        Due.takes(2, "x i i (@ 3 x)");
+        Due.takes(70, "xii" + Due.times(11, "(?x") + "(?xxx)" + Due.times(11, "(?xxx))"));
     }
 
     private static void signs() {
-        takes(1, "xiix");
-        takes(3, "xii(+x1)");
-        takes(3, "x   i  i (   + x     1   )");
-        takes(5, "x(ir)(ri)(/abx(,ba))");
-        refuses("");
-        refuses("      ");
-        refuses("x");
-        refuses("x i");
-        refuses("x i i");
-        refuses("x i i x x");
-        refuses("x i i x)");
-        refuses("x i i (+ x 1");
-        refuses("x i i (+ x 1))");
-        refuses("x i i +");
-        refuses("x i i ()");
-        refuses("x i i (x)");
-        refuses("x i i (1)");
-        refuses("x i i ((+ x 1))");
-        refuses("1 i i x");
-        refuses("( i i x");
-        refuses("+ i i x");
+        Due.takes(1, "xiix");
+        Due.takes(3, "xii(+x1)");
+        Due.takes(3, "x   i  i (   + x     1   )");
+        Due.takes(5, "x(ir)(ri)(/abx(,ba))");
+        Due.refuses("");
+        Due.refuses("      ");
+        Due.refuses("x");
+        Due.refuses("x i");
+        Due.refuses("x i i");
+        Due.refuses("x i i x x");
+        Due.refuses("x i i x)");
+        Due.refuses("x i i (+ x 1");
+        Due.refuses("x i i (+ x 1))");
+        Due.refuses("x i i +");
+        Due.refuses("x i i ()");
+        Due.refuses("x i i (x)");
+        Due.refuses("x i i (1)");
+        Due.refuses("x i i ((+ x 1))");
+        Due.refuses("1 i i x");
+        Due.refuses("( i i x");
+        Due.refuses("+ i i x");
         for (char other : "!\"#$%&'.;=>ABCXYZ[\\]^_`{|}~".toCharArray()) {
-            refuses("x i i x" + other);
-            refuses("x i i " + other);
-            refuses("x i i (" + other + " x x)");
-            refuses(other + " i i x");
+            Due.refuses("x i i x" + other);
+            Due.refuses("x i i " + other);
+            Due.refuses("x i i (" + other + " x x)");
+            Due.refuses(other + " i i x");
         }
     }
 
     private static void numbers() {
-        takes(1, "x i i 0");
-        takes(1, "x i i 9999");
-        takes(1, "x i i 0000");
-        takes(3, "x i i (+ 1234 5678)");
-        refuses("x i i 12345");
-        refuses("x i i 00001");
-        refuses("x i i (+ 12345)");
-        refuses("x i i (+ 12345 6)");
-        refuses("x i i (+ 12 34 5)");
-        refuses("x i i (+ 1234)");
-        refuses("x i i -1");
-        refuses("x i i 1 2");
+        Due.takes(1, "x i i 0");
+        Due.takes(1, "x i i 9999");
+        Due.takes(1, "x i i 0000");
+        Due.takes(3, "x i i (+ 1234 5678)");
+        Due.refuses("x i i 12345");
+        Due.refuses("x i i 00001");
+        Due.refuses("x i i (+ 12345)");
+        Due.refuses("x i i (+ 12345 6)");
+        Due.refuses("x i i (+ 12 34 5)");
+        Due.refuses("x i i (+ 1234)");
+        Due.refuses("x i i -1");
+        Due.refuses("x i i 1 2");
         LinearCells x = Due.with("x i i (- 0102 0009)");
         Due.is("run", 0, Due.run(x, 0, 0));
         Due.is("value(1)", 93, Due.value(x, 1));
     }
 
     private static void types() {
-        takes(1, "x r r x");
-        takes(1, "x (i i) (r r) x");
-        takes(1, "x ((i r) (r i)) i 1");
-        refuses("x x i 1");
-        refuses("x n i 1");
-        refuses("x i 1 1");
-        refuses("x () i 1");
-        refuses("x (i) i 1");
-        refuses("x (i i i) i 1");
-        refuses("x (i i i 1");
-        refuses("x i (i i 1");
-        refuses("x i i) 1");
+        Due.takes(1, "x r r x");
+        Due.takes(1, "x (i i) (r r) x");
+        Due.takes(1, "x ((i r) (r i)) i 1");
+        Due.refuses("x x i 1");
+        Due.refuses("x n i 1");
+        Due.refuses("x i 1 1");
+        Due.refuses("x () i 1");
+        Due.refuses("x (i) i 1");
+        Due.refuses("x (i i i) i 1");
+        Due.refuses("x (i i i 1");
+        Due.refuses("x i (i i 1");
+        Due.refuses("x i i) 1");
     }
 
     private static void forms() {
         for (String form : new String[] {"+", "-", "*", "<", ",", "p"}) {
-            refuses("x i i (" + form + ")");
-            refuses("x i i (" + form + " x)");
-            takes(3, "x i i (" + form + " x 1)");
-            refuses("x i i (" + form + " x 1 2)");
+            Due.refuses("x i i (" + form + ")");
+            Due.refuses("x i i (" + form + " x)");
+            Due.takes(3, "x i i (" + form + " x 1)");
+            Due.refuses("x i i (" + form + " x 1 2)");
         }
         for (String form : new String[] {"n", "g", "d"}) {
-            refuses("x i i (" + form + ")");
-            takes(2, "x i i (" + form + " x)");
-            refuses("x i i (" + form + " x 1)");
+            Due.refuses("x i i (" + form + ")");
+            Due.takes(2, "x i i (" + form + " x)");
+            Due.refuses("x i i (" + form + " x 1)");
         }
         for (char letter = 'a'; letter <= 'z'; letter++) {
             if ("ngpd".indexOf(letter) < 0) {
-                refuses("x i i (" + letter + " x)");
-                refuses("x i i (" + letter + " x x)");
+                Due.refuses("x i i (" + letter + " x)");
+                Due.refuses("x i i (" + letter + " x x)");
             }
         }
-        refuses("x i i (? x 1)");
-        refuses("x i i (? x 1 2 3)");
-        refuses("x i i (: x 1)");
-        refuses("x i i (: 1 x 1)");
-        refuses("x i i (: y x 1 2)");
-        refuses("x i i (: (n 1) x 1)");
-        refuses("x i i (/ a x 1)");
-        refuses("x i i (/ a b x)");
-        refuses("x i i (/ a 1 x 1)");
-        refuses("x i i (/ 1 a x 1)");
-        refuses("x i i (/ a a x 1)");
-        refuses("x i i (/ x x x x)");
-        takes(3, "x i i (/ a x x 1)");
-        refuses("x i i (@ x)");
-        refuses("x i i (@ x 1)");
-        refuses("x i i (@ 1)");
-        refuses("x i i (@ 1 2 3)");
+        Due.refuses("x i i (? x 1)");
+        Due.refuses("x i i (? x 1 2 3)");
+        Due.refuses("x i i (: x 1)");
+        Due.refuses("x i i (: 1 x 1)");
+        Due.refuses("x i i (: y x 1 2)");
+        Due.refuses("x i i (: (n 1) x 1)");
+        Due.refuses("x i i (/ a x 1)");
+        Due.refuses("x i i (/ a b x)");
+        Due.refuses("x i i (/ a 1 x 1)");
+        Due.refuses("x i i (/ 1 a x 1)");
+        Due.refuses("x i i (/ a a x 1)");
+        Due.refuses("x i i (/ x x x x)");
+        Due.takes(3, "x i i (/ a x x 1)");
+        Due.refuses("x i i (@ x)");
+        Due.refuses("x i i (@ x 1)");
+        Due.refuses("x i i (@ 1)");
+        Due.refuses("x i i (@ 1 2 3)");
     }
 
     private static void depths() {
-        takes(1, "x i ((((i i) i) i) i) x");
-        takes(1, "x (i (i (i (i r)))) i 1");
-        refuses("x i (((((i i) i) i) i) i) x");
-        refuses("x (i (i (i (i (i r))))) i 1");
+        Due.takes(1, "x i ((((i i) i) i) i) x");
+        Due.takes(1, "x (i (i (i (i r)))) i 1");
+        Due.refuses("x i (((((i i) i) i) i) i) x");
+        Due.refuses("x (i (i (i (i (i r))))) i 1");
         String four = "(((ii)(ii))((ii)(ii)))";
-        takes(1, "x" + "(" + four + four + ")" + "(" + four + four + ")" + "1");
-        takes(17, "x i i " + Due.times(16, "(n ") + "x" + Due.times(16, ")"));
-        refuses("x i i " + Due.times(17, "(n ") + "x" + Due.times(17, ")"));
-        takes(33, "x i i " + Due.times(16, "(+1") + "x" + Due.times(16, ")"));
-        refuses("x i i " + Due.times(17, "(+1") + "x" + Due.times(17, ")"));
-        takes(33, "xii" + Due.times(16, "(:xx") + "x" + Due.times(16, ")"));
-        takes(33, "xii" + Due.times(16, "(/xyx") + "y" + Due.times(16, ")"));
-        refuses("xii" + Due.times(17, "(/xyx") + "y" + Due.times(17, ")"));
+        Due.takes(1, "x" + "(" + four + four + ")" + "(" + four + four + ")" + "1");
+        Due.takes(17, "x i i " + Due.times(16, "(n ") + "x" + Due.times(16, ")"));
+        Due.refuses("x i i " + Due.times(17, "(n ") + "x" + Due.times(17, ")"));
+        Due.takes(33, "x i i " + Due.times(16, "(+1") + "x" + Due.times(16, ")"));
+        Due.refuses("x i i " + Due.times(17, "(+1") + "x" + Due.times(17, ")"));
+        Due.takes(33, "xii" + Due.times(16, "(:xx") + "x" + Due.times(16, ")"));
+        Due.takes(33, "xii" + Due.times(16, "(/xyx") + "y" + Due.times(16, ")"));
+        Due.refuses("xii" + Due.times(17, "(/xyx") + "y" + Due.times(17, ")"));
         // 33 names stand for something at once.
-        takes(33, "xii" + Due.times(15, "(/xyx") + "(/xzx" + "z" + Due.times(16, ")"));
+        Due.takes(33, "xii" + Due.times(15, "(/xyx") + "(/xzx" + "z" + Due.times(16, ")"));
         // The most binders that 120 characters can hold: one inside another, and beside one another.
-        takes(47, "xii" + Due.times(7, "(:y(:yxx)") + Due.times(9, "(:yx") + "x" + Due.times(16, ")"));
+        Due.takes(47, "xii" + Due.times(7, "(:y(:yxx)") + Due.times(9, "(:yx") + "x" + Due.times(16, ")"));
     }
 
     private static void callees() {
         for (int k = 0; k <= 3; k++) {
-            takes(2, "x i i (@ " + k + " x)");
-            takes(2, "x i i (@000" + k + "x)");
+            Due.takes(2, "x i i (@ " + k + " x)");
+            Due.takes(2, "x i i (@000" + k + "x)");
         }
-        refuses("x i i (@ 4 x)");
-        refuses("x i i (@ 9 x)");
-        refuses("x i i (@ 10 x)");
-        refuses("x i i (@ 9999 x)");
-        refuses("x i i (@ 00000 x)");
+        Due.refuses("x i i (@ 4 x)");
+        Due.refuses("x i i (@ 9 x)");
+        Due.refuses("x i i (@ 10 x)");
+        Due.refuses("x i i (@ 9999 x)");
+        Due.refuses("x i i (@ 00000 x)");
     }
 
     private static void names() {
-        misses("x i i y");
-        misses("x i i i");
-        misses("x i i (+ x y)");
-        misses("x i i (: y y x)");
-        misses("x i i (+ (: y x y) y)");
-        misses("x i i (/ a b a b)");
-        misses("x i i (/ a b x c)");
-        misses("x i i (+ (/ a b x a) b)");
-        takes(3, "n i i (+ n n)");
-        takes(3, "x i i (: x x x)");
-        takes(5, "x i i (: y x (: y y y))");
-        takes(5, "i i i (/ n g i (p n g))");
+        Due.misses("x i i y");
+        Due.misses("x i i i");
+        Due.misses("x i i (+ x y)");
+        Due.misses("x i i (: y y x)");
+        Due.misses("x i i (+ (: y x y) y)");
+        Due.misses("x i i (/ a b a b)");
+        Due.misses("x i i (/ a b x c)");
+        Due.misses("x i i (+ (/ a b x a) b)");
+        Due.takes(3, "n i i (+ n n)");
+        Due.takes(3, "x i i (: x x x)");
+        Due.takes(5, "x i i (: y x (: y y y))");
+        Due.takes(5, "i i i (/ n g i (p n g))");
         // That the text is none goes ahead of a variable that stands for nothing.
-        refuses("x i i (+ y");
-        refuses("x i i y y");
-        refuses("x i i (+ y 12345)");
-        refuses("x i i (+ y (@ 4 x))");
+        Due.refuses("x i i (+ y");
+        Due.refuses("x i i y y");
+        Due.refuses("x i i (+ y 12345)");
+        Due.refuses("x i i (+ y (@ 4 x))");
         Due.is("define(4) with y", Due.ILLEGAL_ARGUMENT,
             Due.defined(new LinearCells(), 4, "x i i y"));
     }

@@ -13,10 +13,6 @@ public final class Promise4SoundTest {
         Due.end();
     }
 
-    private static void is(boolean want, String text) {
-        Due.is("sound of '" + text + "'", want, Due.with(text).sound(0));
-    }
-
     private static void none() {
         LinearCells x = Due.with("", "x i i x");
         for (int k : new int[] {-1, 0, 2, 3, 4, 33, Integer.MIN_VALUE, Integer.MAX_VALUE}) {
@@ -26,78 +22,78 @@ public final class Promise4SoundTest {
     }
 
     private static void usedOnce() {
-        is(true, "x r r x");
-        is(false, "x r i 1");
-        is(false, "x r (r r) (, x x)");
-        is(false, "x (i r) i 1");
-        is(true, "x (i r) (i r) x");
-        is(false, "x (r i) ((r i)(r i)) (, x x)");
-        is(true, "x i i (: c (n x) (d c))");
-        is(false, "x i i (: c (n x) x)");
-        is(false, "x i i (: c (n x) (+ (d c) (d c)))");
-        is(true, "x i i (/ a c (g (n x)) (d c))");
-        is(false, "x i i (/ a c (g (n x)) a)");
-        is(true, "x (r r) (r r) (/ a b x (, b a))");
-        is(false, "x (r r) r (/ a b x a)");
-        is(false, "x (r r) r (/ a b x b)");
-        is(false, "x (r r) (r r) (/ a b x (, b b))");
-        is(false, "x (r r) (r (r r)) (/ a b x (, b x))");
-        is(true, "x i ((i i) r) (: p (, (, x x) (n x)) p)");
-        is(true, "x ((i r) i) r (/ p k x (/ a c p (p c (+ a k))))");
-        is(false, "x ((i r) i) i (/ p k x k)");
+        Due.isSound(true, "x r r x");
+        Due.isSound(false, "x r i 1");
+        Due.isSound(false, "x r (r r) (, x x)");
+        Due.isSound(false, "x (i r) i 1");
+        Due.isSound(true, "x (i r) (i r) x");
+        Due.isSound(false, "x (r i) ((r i)(r i)) (, x x)");
+        Due.isSound(true, "x i i (: c (n x) (d c))");
+        Due.isSound(false, "x i i (: c (n x) x)");
+        Due.isSound(false, "x i i (: c (n x) (+ (d c) (d c)))");
+        Due.isSound(true, "x i i (/ a c (g (n x)) (d c))");
+        Due.isSound(false, "x i i (/ a c (g (n x)) a)");
+        Due.isSound(true, "x (r r) (r r) (/ a b x (, b a))");
+        Due.isSound(false, "x (r r) r (/ a b x a)");
+        Due.isSound(false, "x (r r) r (/ a b x b)");
+        Due.isSound(false, "x (r r) (r r) (/ a b x (, b b))");
+        Due.isSound(false, "x (r r) (r (r r)) (/ a b x (, b x))");
+        Due.isSound(true, "x i ((i i) r) (: p (, (, x x) (n x)) p)");
+        Due.isSound(true, "x ((i r) i) r (/ p k x (/ a c p (p c (+ a k))))");
+        Due.isSound(false, "x ((i r) i) i (/ p k x k)");
     }
 
     private static void usedOnEveryWay() {
-        is(true, "x i i (: c (n x) (? x (d c) (+ 1 (d c))))");
-        is(false, "x i i (: c (n x) (? x (d c) 0))");
-        is(false, "x i i (: c (n x) (? x 0 (d c)))");
-        is(false, "x i i (: c (n x) (? x 0 1))");
-        is(true, "x i i (: c (n x) (? (d c) 0 1))");
-        is(false, "x i i (: c (n x) (? (d c) 0 (d c)))");
-        is(false, "x i i (: c (n x) (? (d c) (d c) 0))");
-        is(false, "x i i (: c (n x) (? (d c) (d c) (d c)))");
-        is(true, "x i i (: c (n x) (? x (? x (d c) (d c)) (d c)))");
-        is(false, "x i i (: c (n x) (? x (? x (d c) 1) (d c)))");
-        is(false, "x i i (: c (n x) (+ (? x (d c) 1) (? x 1 (d c))))");
-        is(true, "x i i (? x (: c (n x) (d c)) 0)");
-        is(false, "x i i (: c (n 1) (? x (d c) (: c (n 2) (d c))))");
+        Due.isSound(true, "x i i (: c (n x) (? x (d c) (+ 1 (d c))))");
+        Due.isSound(false, "x i i (: c (n x) (? x (d c) 0))");
+        Due.isSound(false, "x i i (: c (n x) (? x 0 (d c)))");
+        Due.isSound(false, "x i i (: c (n x) (? x 0 1))");
+        Due.isSound(true, "x i i (: c (n x) (? (d c) 0 1))");
+        Due.isSound(false, "x i i (: c (n x) (? (d c) 0 (d c)))");
+        Due.isSound(false, "x i i (: c (n x) (? (d c) (d c) 0))");
+        Due.isSound(false, "x i i (: c (n x) (? (d c) (d c) (d c)))");
+        Due.isSound(true, "x i i (: c (n x) (? x (? x (d c) (d c)) (d c)))");
+        Due.isSound(false, "x i i (: c (n x) (? x (? x (d c) 1) (d c)))");
+        Due.isSound(false, "x i i (: c (n x) (+ (? x (d c) 1) (? x 1 (d c))))");
+        Due.isSound(true, "x i i (? x (: c (n x) (d c)) 0)");
+        Due.isSound(false, "x i i (: c (n 1) (? x (d c) (: c (n 2) (d c))))");
     }
 
     private static void notLinear() {
-        is(true, "x i i 1");
-        is(true, "x i (i i) (, x x)");
-        is(true, "x (i i) i 1");
-        is(true, "x (i i) ((i i)(i i)) (, x x)");
-        is(true, "x i i (? x x 0)");
-        is(true, "x (i i) i (/ a b x a)");
-        is(true, "x (i i) i (/ a b x (+ b b))");
-        is(true, "x i i (: y x 1)");
+        Due.isSound(true, "x i i 1");
+        Due.isSound(true, "x i (i i) (, x x)");
+        Due.isSound(true, "x (i i) i 1");
+        Due.isSound(true, "x (i i) ((i i)(i i)) (, x x)");
+        Due.isSound(true, "x i i (? x x 0)");
+        Due.isSound(true, "x (i i) i (/ a b x a)");
+        Due.isSound(true, "x (i i) i (/ a b x (+ b b))");
+        Due.isSound(true, "x i i (: y x 1)");
     }
 
     private static void nearestName() {
-        is(true, "x r r (: x (d x) (n x))");
-        is(false, "x r i (: x 1 x)");
-        is(true, "x r i (: y (d x) (: y (n y) (d y)))");
-        is(false, "x r (r r) (: y x (: x (n 1) (, x x)))");
-        is(true, "x r (r r) (: y x (: x (n 1) (, x y)))");
-        is(true, "x (i r) i (/ x y x (+ x (d y)))");
-        is(true, "x (r r) r (/ y x x (: y (d y) x))");
+        Due.isSound(true, "x r r (: x (d x) (n x))");
+        Due.isSound(false, "x r i (: x 1 x)");
+        Due.isSound(true, "x r i (: y (d x) (: y (n y) (d y)))");
+        Due.isSound(false, "x r (r r) (: y x (: x (n 1) (, x x)))");
+        Due.isSound(true, "x r (r r) (: y x (: x (n 1) (, x y)))");
+        Due.isSound(true, "x (i r) i (/ x y x (+ x (d y)))");
+        Due.isSound(true, "x (r r) r (/ y x x (: y (d y) x))");
     }
 
     private static void given() {
-        is(false, "x i r x");
-        is(false, "x r i x");
-        is(false, "x i (i i) (, x (n 1))");
-        is(true, "x i (i r) (, x (n 1))");
-        is(false, "x i (r i) (, x (n 1))");
-        is(false, "x i ((i i) i) (, x (, x x))");
-        is(true, "x i (i (i i)) (, x (, x x))");
+        Due.isSound(false, "x i r x");
+        Due.isSound(false, "x r i x");
+        Due.isSound(false, "x i (i i) (, x (n 1))");
+        Due.isSound(true, "x i (i r) (, x (n 1))");
+        Due.isSound(false, "x i (r i) (, x (n 1))");
+        Due.isSound(false, "x i ((i i) i) (, x (, x x))");
+        Due.isSound(true, "x i (i (i i)) (, x (, x x))");
         // Both types have the number 111, but they are not the same.
-        is(true, "x i ((i i) (i i)) (, (, x x) (, x x))");
-        is(false, "x i (i ((i i) i)) (, (, x x) (, x x))");
-        is(true, "x i (i ((i i) i)) (, x (, (, x x) x))");
-        is(false, "x i i (+ x (n 1))");
-        is(false, "x i i (d x)");
+        Due.isSound(true, "x i ((i i) (i i)) (, (, x x) (, x x))");
+        Due.isSound(false, "x i (i ((i i) i)) (, (, x x) (, x x))");
+        Due.isSound(true, "x i (i ((i i) i)) (, x (, (, x x) x))");
+        Due.isSound(false, "x i i (+ x (n 1))");
+        Due.isSound(false, "x i i (d x)");
     }
 
     private static void callees() {

@@ -20,17 +20,6 @@ public final class Promise6RunTest {
         Due.end();
     }
 
-    private static void gives(int want, String text, int n) {
-        LinearCells x = Due.with(text);
-        Due.is("run of '" + text + "' with " + n, 0, Due.run(x, 0, n));
-        Due.is("value(0) of '" + text + "' with " + n, 1, Due.value(x, 0));
-        Due.is("value(1) of '" + text + "' with " + n, want, Due.value(x, 1));
-    }
-
-    private static void traps(int want, String text, int n) {
-        Due.is("run of '" + text + "' with " + n, want, Due.run(Due.with(text), 0, n));
-    }
-
     private static void none() {
         LinearCells x = Due.with("", "x i r (n x)");
         Due.is("run(1, 3)", 0, Due.run(x, 1, 3));
@@ -42,78 +31,72 @@ public final class Promise6RunTest {
     }
 
     private static void ordinary() {
-        gives(17, "x i i 17", 0);
-        gives(-5, "x i i x", -5);
-        gives(9, "x i i (+ x 2)", 7);
-        gives(5, "x i i (- x 2)", 7);
-        gives(14, "x i i (* x 2)", 7);
-        gives(1, "x i i (< x 2)", 1);
-        gives(0, "x i i (< x 2)", 2);
-        gives(0, "x i i (< x 2)", 3);
-        gives(1, "x i i (< x 0)", Integer.MIN_VALUE);
-        gives(0, "x i i (< x 0)", Integer.MAX_VALUE);
-        gives(Integer.MIN_VALUE, "x i i (+ x 1)", Integer.MAX_VALUE);
-        gives(Integer.MAX_VALUE, "x i i (- x 1)", Integer.MIN_VALUE);
-        gives(-2, "x i i (* x 2)", Integer.MAX_VALUE);
-        gives(1, "x i i (? x 1 2)", 5);
-        gives(1, "x i i (? x 1 2)", -5);
-        gives(2, "x i i (? x 1 2)", 0);
-        gives(8, "x i i (: y (+ x 1) (+ y y))", 3);
-        gives(3, "x i i (/ a b (, 5 2) (- a b))", 0);
-        gives(6, "x i i (d (p (n x) 6))", 1);
-        gives(1, "x i i (d (n x))", 1);
-        gives(8, "x i i (/ a c (g (n x)) (+ a (d c)))", 4);
-        gives(9, "x i i (: x 4 (: x (+ x 5) x))", 1);
-        gives(5, "x i i (+ (: x 4 x) x)", 1);
-        gives(120, "x i i (? (< x 1) 1 (* x (@ 0 (- x 1))))", 5);
+        Due.comesTo(17, "x i i 17", 0);
+        Due.comesTo(-5, "x i i x", -5);
+        Due.comesTo(9, "x i i (+ x 2)", 7);
+        Due.comesTo(5, "x i i (- x 2)", 7);
+        Due.comesTo(14, "x i i (* x 2)", 7);
+        Due.comesTo(1, "x i i (< x 2)", 1);
+        Due.comesTo(0, "x i i (< x 2)", 2);
+        Due.comesTo(0, "x i i (< x 2)", 3);
+        Due.comesTo(1, "x i i (< x 0)", Integer.MIN_VALUE);
+        Due.comesTo(0, "x i i (< x 0)", Integer.MAX_VALUE);
+        Due.comesTo(Integer.MIN_VALUE, "x i i (+ x 1)", Integer.MAX_VALUE);
+        Due.comesTo(Integer.MAX_VALUE, "x i i (- x 1)", Integer.MIN_VALUE);
+        Due.comesTo(-2, "x i i (* x 2)", Integer.MAX_VALUE);
+        Due.comesTo(1, "x i i (? x 1 2)", 5);
+        Due.comesTo(1, "x i i (? x 1 2)", -5);
+        Due.comesTo(2, "x i i (? x 1 2)", 0);
+        Due.comesTo(8, "x i i (: y (+ x 1) (+ y y))", 3);
+        Due.comesTo(3, "x i i (/ a b (, 5 2) (- a b))", 0);
+        Due.comesTo(6, "x i i (d (p (n x) 6))", 1);
+        Due.comesTo(1, "x i i (d (n x))", 1);
+        Due.comesTo(8, "x i i (/ a c (g (n x)) (+ a (d c)))", 4);
+        Due.comesTo(9, "x i i (: x 4 (: x (+ x 5) x))", 1);
+        Due.comesTo(5, "x i i (+ (: x 4 x) x)", 1);
+        Due.comesTo(120, "x i i (? (< x 1) 1 (* x (@ 0 (- x 1))))", 5);
     }
 
     private static void variableIsANumber() {
-        gives(3, "x r i (+ x 1)", 2);
-        traps(4, "x r i (d x)", 2);
-        traps(4, "x (i i) i (/ a b x a)", 2);
+        Due.comesTo(3, "x r i (+ x 1)", 2);
+        Due.ran(4, "x r i (d x)", 2);
+        Due.ran(4, "x (i i) i (/ a b x a)", 2);
     }
 
     private static void order() {
         // 12 is read ahead of the writing, which stands behind it.
-        gives(12 + 3, "x i i (: c (n 12) (/ a c (g c) (+ a (d (p c 3)))))", 0);
-        gives(2, "x i i (: c (n x) (- (d (p c 5)) (d (n 3))))", 0);
+        Due.comesTo(12 + 3, "x i i (: c (n 12) (/ a c (g c) (+ a (d (p c 3)))))", 0);
+        Due.comesTo(2, "x i i (: c (n x) (- (d (p c 5)) (d (n 3))))", 0);
         LinearCells x = Due.with("x i (r r) (, (n 1) (n 2))");
         Due.is("run", 0, Due.run(x, 0, 0));
         Due.is("cell(0)", 1, Due.cell(x, 0));
         Due.is("cell(1)", 2, Due.cell(x, 1));
         // Of the two ways only the one that is asked for is gone.
-        gives(1, "x i i (? x 1 (d x))", 1);
-        gives(1, "x i i (? x (d x) 1)", 0);
-        gives(3, "x i i (: c (n x) (: y (? x (d c) 0) 3))", 0);
-        Due.heaps("the other way is not gone", givenRun("x i i (: c (n x) (? x (d c) 3))", 0), 1, 1, 0, 0, 6);
+        Due.comesTo(1, "x i i (? x 1 (d x))", 1);
+        Due.comesTo(1, "x i i (? x (d x) 1)", 0);
+        Due.comesTo(3, "x i i (: c (n x) (: y (? x (d c) 0) 3))", 0);
+        Due.heaps("the other way is not gone", Due.ran(0, "x i i (: c (n x) (? x (d c) 3))", 0), 1, 1, 0, 0, 6);
         // n takes the lowest free place.
-        x = givenRun("x i r (:a(n 1)(:b(n 2)(:c(n 3)(:u(d b)(:v(d a)(:w(n 4)(n 5)))))))", 0);
+        x = Due.ran(0, "x i r (:a(n 1)(:b(n 2)(:c(n 3)(:u(d b)(:v(d a)(:w(n 4)(n 5)))))))", 0);
         Due.is("cell(0)", 4, Due.cell(x, 0));
         Due.is("cell(1)", 5, Due.cell(x, 1));
         Due.is("cell(2)", 3, Due.cell(x, 2));
     }
 
-    private static LinearCells givenRun(String text, int n) {
-        LinearCells x = Due.with(text);
-        Due.is("run of '" + text + "' with " + n, 0, Due.run(x, 0, n));
-        return x;
-    }
-
     private static void freePlaces() {
-        traps(1, "x i i (: c (n x) (+ (d c) (d c)))", 1);
-        traps(1, "x i i (: c (n x) (: u (d c) (g c)))", 1);
-        traps(1, "x i i (: c (n x) (: u (d c) (p c 1)))", 1);
-        traps(1, "x i i (: c (n x) (p c (d c)))", 1);
+        Due.ran(1, "x i i (: c (n x) (+ (d c) (d c)))", 1);
+        Due.ran(1, "x i i (: c (n x) (: u (d c) (g c)))", 1);
+        Due.ran(1, "x i i (: c (n x) (: u (d c) (p c 1)))", 1);
+        Due.ran(1, "x i i (: c (n x) (p c (d c)))", 1);
         // Another cell has taken the place in the meantime.
-        gives(9, "x i i (: c (n x) (: u (d c) (: e (n 9) (d c))))", 1);
-        traps(1, "x i i (: c (n x) (: u (d c) (: e (n 9) (+ (d c) (d e)))))", 1);
+        Due.comesTo(9, "x i i (: c (n x) (: u (d c) (: e (n 9) (d c))))", 1);
+        Due.ran(1, "x i i (: c (n x) (: u (d c) (: e (n 9) (+ (d c) (d e)))))", 1);
     }
 
     private static void noRoom() {
         String twelve = "x i i (? x (: c (n x) (@ 0 (- x 1))) 7)";
-        gives(7, twelve, 12);
-        traps(2, twelve, 13);
+        Due.comesTo(7, twelve, 12);
+        Due.ran(2, twelve, 13);
         LinearCells x = Due.with(twelve);
         Due.is("run(0, 13)", 2, Due.run(x, 0, 13));
         Due.heaps("run(0, 13)", x, 12, 12, 0, 0, 12 * 9 + 5);
@@ -136,17 +119,17 @@ public final class Promise6RunTest {
 
     private static void tooLong() {
         LinearCells x = Due.with("x i i x");
-        Due.given(x, 1, "xii" + sum(Collections.nCopies(16, "x")));
+        Due.given(x, 1, "xii" + Due.sum(Collections.nCopies(16, "x")));
         Due.is("run(1, 1)", 0, Due.run(x, 1, 1));
         Due.is("heap(4)", 31, Due.heap(x, 4));
-        Due.given(x, 2, "xii" + sum(Collections.nCopies(7, "(@1x)")));
+        Due.given(x, 2, "xii" + Due.sum(Collections.nCopies(7, "(@1x)")));
         Due.is("run(2, 1)", 0, Due.run(x, 2, 1));
         Due.is("heap(4)", 7 * 33 + 6, Due.heap(x, 4));
         // 8 * 239 + 2 * 33 + 6 terms' expressions, 15 for + and 1 for n.
-        Due.given(x, 3, "xii(n" + sum(terms(8, 2, 6)) + ")");
+        Due.given(x, 3, "xii(n" + Due.sum(terms(8, 2, 6)) + ")");
         Due.is("just 2000 expressions", 0, Due.run(x, 3, 1));
         Due.heaps("just 2000 expressions", x, 1, 1, 0, 0, 2000);
-        Due.given(x, 3, "xii" + sum(terms(8, 2, 7)));
+        Due.given(x, 3, "xii" + Due.sum(terms(8, 2, 7)));
         Due.is("one more than 2000", 3, Due.run(x, 3, 1));
         Due.heaps("one more than 2000", x, 0, 0, 0, 0, 2000);
         Due.values("one more than 2000", x, 0, 0, 0, 0);
@@ -158,14 +141,6 @@ public final class Promise6RunTest {
         terms.addAll(Collections.nCopies(callsOfOne, "(@1x)"));
         terms.addAll(Collections.nCopies(variables, "x"));
         return terms;
-    }
-
-    private static String sum(List<String> terms) {
-        if (terms.size() == 1) {
-            return terms.get(0);
-        }
-        int half = terms.size() / 2;
-        return "(+" + sum(terms.subList(0, half)) + sum(terms.subList(half, terms.size())) + ")";
     }
 
     private static void tooDeep() {
@@ -187,27 +162,27 @@ public final class Promise6RunTest {
     private static void wrongParts() {
         for (String form : new String[] {"+", "-", "*", "<"}) {
             for (String other : new String[] {"(n 1)", "(, 1 1)"}) {
-                traps(4, "x i i (" + form + " 1 " + other + ")", 1);
-                traps(4, "x i i (" + form + " " + other + " 1)", 1);
-                traps(4, "x i i (" + form + " " + other + " " + other + ")", 1);
+                Due.ran(4, "x i i (" + form + " 1 " + other + ")", 1);
+                Due.ran(4, "x i i (" + form + " " + other + " 1)", 1);
+                Due.ran(4, "x i i (" + form + " " + other + " " + other + ")", 1);
             }
         }
-        traps(4, "x i i (? (n 1) 1 1)", 1);
-        traps(4, "x i i (? (, 1 1) 1 1)", 1);
-        traps(4, "x i i (/ a b 1 1)", 1);
-        traps(4, "x i i (/ a b (n 1) 1)", 1);
-        traps(4, "x i i (n (n 1))", 1);
-        traps(4, "x i i (n (, 1 1))", 1);
+        Due.ran(4, "x i i (? (n 1) 1 1)", 1);
+        Due.ran(4, "x i i (? (, 1 1) 1 1)", 1);
+        Due.ran(4, "x i i (/ a b 1 1)", 1);
+        Due.ran(4, "x i i (/ a b (n 1) 1)", 1);
+        Due.ran(4, "x i i (n (n 1))", 1);
+        Due.ran(4, "x i i (n (, 1 1))", 1);
         for (String form : new String[] {"(g ", "(d ", "(p 3 ", "(p (n 3) "}) {
-            traps(form.equals("(p (n 3) ") ? 0 : 4, "x i i " + form + "1)", 1);
-            traps(4, "x i i " + form + "(, 1 1))", 1);
+            Due.ran(form.equals("(p (n 3) ") ? 0 : 4, "x i i " + form + "1)", 1);
+            Due.ran(4, "x i i " + form + "(, 1 1))", 1);
         }
-        traps(4, "x i i (p 1 1)", 1);
-        traps(4, "x i i (p (, 1 1) 1)", 1);
-        traps(4, "x i i (p (n 1) (n 1))", 1);
-        traps(4, "x i i (@ 1 x)", 1);
-        traps(0, "x i i (, (n 1) (, 1 1))", 1);
-        traps(0, "x i i (: y (n 1) (: z (, y y) 1))", 1);
+        Due.ran(4, "x i i (p 1 1)", 1);
+        Due.ran(4, "x i i (p (, 1 1) 1)", 1);
+        Due.ran(4, "x i i (p (n 1) (n 1))", 1);
+        Due.ran(4, "x i i (@ 1 x)", 1);
+        Due.ran(0, "x i i (, (n 1) (, 1 1))", 1);
+        Due.ran(0, "x i i (: y (n 1) (: z (, y y) 1))", 1);
     }
 
     private static void trapsAfter(int trap, int made, int begun, String text) {
@@ -231,9 +206,9 @@ public final class Promise6RunTest {
         trapsAfter(1, 1, 9, "x i i (+ (: c (n 1) (: u (d c) (d c))) (n 2))");
         trapsAfter(4, 0, 3, "x i i (@ 1 (d 2))");
         // 4 goes ahead of 1 and of 2.
-        traps(4, "x i i (: c (n 1) (: u (d c) (p c c)))", 1);
-        traps(4, "x i i (? x (: c (n x) (@ 0 (- x 1))) (n (, 1 1)))", 12);
-        traps(2, "x i i (? x (: c (n x) (@ 0 (- x 1))) (n 1))", 12);
+        Due.ran(4, "x i i (: c (n 1) (: u (d c) (p c c)))", 1);
+        Due.ran(4, "x i i (? x (: c (n x) (@ 0 (- x 1))) (n (, 1 1)))", 12);
+        Due.ran(2, "x i i (? x (: c (n x) (@ 0 (- x 1))) (n 1))", 12);
         LinearCells y = Due.with("x i i (?x(:y(,(,(,1 2)(,3 4))(,(,5 6)7))(@0(- x 1)))(@1 x))");
         Due.given(y, 1, "x i (i r) (g 1)");
         Due.is("4 goes ahead of 2", 4, Due.run(y, 0, 20));
@@ -259,11 +234,11 @@ public final class Promise6RunTest {
     private static void deepExpressions() {
         // 24 calls, each of them 14 expressions deep.
         String text = "xii" + Due.times(13, "(+1") + "(?x(@0(-x1))0)" + Due.times(13, ")");
-        gives(24 * 13, text, 23);
-        traps(3, text, 24);
+        Due.comesTo(24 * 13, text, 23);
+        Due.ran(3, text, 24);
         // Each call has all of its binders in use.
         String binders = "xii" + Due.times(7, "(:y(:yxx)") + Due.times(5, "(:yx") + "(?x(@0(-x1))y)"
             + Due.times(12, ")");
-        gives(0, binders, 23);
+        Due.comesTo(0, binders, 23);
     }
 }
