@@ -60,7 +60,7 @@ public final class BoundaryCallsTest {
             x.draft(Due.word(text, from));
             calls++;
         }
-        x.define(0);
+        Due.is("define(0)", 21, Due.defined(x, 0));
         calls++;
         for (; calls + 5 <= MOST_CALLS; calls += 5) {
             Due.is("run(0, 20), call " + (calls + 1), 0, Due.run(x, 0, 20));
@@ -223,8 +223,8 @@ public final class BoundaryCallsTest {
         Due.cells("no run", x);
         // To define and check a procedure is no run of it.
         Due.given(x, 0, "x i (i r) (g (n x))");
-        x.sound(0);
-        x.typed(0);
+        Due.is("sound(0)", true, x.sound(0));
+        Due.is("typed(0)", 13, Due.typed(x, 0));
         Due.values("still no run", x, 0, 0, 0, 0);
         Due.heaps("still no run", x, 0, 0, 0, 0, 0);
         Due.cells("still no run", x);
@@ -384,6 +384,7 @@ public final class BoundaryCallsTest {
         for (int i = 0; i < 10; i++) {
             Due.given(x, 3, "x i i " + i);
             Due.is("y", Due.UNSUPPORTED, Due.defined(x, 3, "x r r (n (n y))"));
+            Due.is("sound(3)", true, x.sound(3));
             Due.is("run(3, 0)", 0, Due.run(x, 3, 0));
             Due.is("value(1)", i, Due.value(x, 1));
             Due.is("typed(1)", 1, Due.typed(x, 1));
@@ -634,8 +635,8 @@ public final class BoundaryCallsTest {
         Due.given(x, 0, "x i i 3");
         Due.is("run(3, 0)", Due.ILLEGAL_STATE, Due.run(x, 3, 0));
         Due.is("y", Due.UNSUPPORTED, Due.defined(x, 0, "x i i y"));
-        x.sound(1);
-        x.typed(1);
+        Due.is("sound(1)", false, x.sound(1));
+        Due.is("typed(1)", 0, Due.typed(x, 1));
         for (int i = 0; i < 2; i++) {
             Due.values("run(0, 5)", x, 3, 5, 1, 1);
             Due.heaps("run(0, 5)", x, 1, 1, 0, 1, 4);

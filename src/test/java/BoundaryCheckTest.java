@@ -280,6 +280,13 @@ public final class BoundaryCheckTest {
                 Due.is("a ring of four with a fault: sound(" + k + ")", false, x.sound(k));
             }
         }
+        // Each of several calls counts.
+        for (int k = 1; k <= 3; k++) {
+            LinearCells x = Due.with("x i i (+ (@ 1 x) (? x (@ 2 x) (@ 3 x)))", good, good, good);
+            Due.is("three calls: sound(0)", true, x.sound(0));
+            Due.given(x, k, "x i i (: c (n x) x)");
+            Due.is("three calls, a fault in " + k + ": sound(0)", false, x.sound(0));
+        }
         // A call counts where no run can come to it, and one that is not called does not.
         Due.is("not come to", false, Due.with("x i i (? 1 x (@ 1 x))", faults[0]).sound(0));
         Due.is("not called", true, Due.with(good, faults[0], faults[1], faults[2]).sound(0));

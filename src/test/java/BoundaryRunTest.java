@@ -5,7 +5,7 @@ public final class BoundaryRunTest {
     private static final int[] EDGES = {Integer.MIN_VALUE, Integer.MIN_VALUE + 1, -1, 0, 1, Integer.MAX_VALUE};
     // A number, a cell and a pair.
     private static final String[] PARTS = {"1", "(n 1)", "(, 1 1)"};
-    // Makes as many cells as its number says and goes on to 1, with as many places left.
+    // Makes as many cells as its number says and goes on to 1.
     private static final String CELLS = "x i i (? x (: c (n x) (@ 0 (- x 1))) (@ 1 x))";
     // Makes six pairs for each of its number and goes on to 1.
     private static final String PAIRS = "x i i (?x(:y(,(,(,1 2)(,3 4))(,(,5 6)7))(@0(- x 1)))(@1 x))";

@@ -125,7 +125,7 @@ public final class BoundaryTextTest {
                 Due.refuses("x i (" + letter + " i) 1");
             }
         }
-        String[] nones = {"()", "(i)", "((ii))", "(iii)", "(ir", "ir)", "1", "(i1)", "(,ii)", ")", "("};
+        String[] nones = {"()", "(i)", "((ii))", "(iii)", "(ir", "(iri", "(ir(", "(ir1", "ir)", "1", "(i1)", "(,ii)", ")", "("};
         for (String none : nones) {
             Due.refuses("x " + none + " i 1");
             Due.refuses("x i " + none + " 1");
